@@ -9,6 +9,7 @@ public final class ChangesTest {
         undoOfEach();
         latestEight();
         whatStays();
+        otherLines();
         saveAndRestore();
         CHECK.end("ChangesTest");
     }
@@ -80,6 +81,25 @@ public final class ChangesTest {
         CHECK.same(what + ": fault", field.faultPosition(), 0);
         CHECK.reason(what, field, 9, 1, 0);
         CHECK.same(what + ": line", field.character(1), 'g');
+    }
+
+    /** A line of play comes back although another one was played in its place. */
+    private static void otherLines() {
+        FoxBurrows field = Check.field(4, "01 12 23 30");
+        int start = field.position(3, 1, -1, false);
+        field.begin(start);
+        field.move(3, 0);
+        field.save();
+        CHECK.same("another move", Check.commands(field, "u;m3>2"), 2);
+        CHECK.same("another line", Check.line(field), "3f2");
+        field.undo();
+        CHECK.same("undone", Check.line(field) + " " + field.now(), "3f0 " + field.position(0, 1, -1, true));
+        Check.commands(field, "b0018");
+        CHECK.same("a game from elsewhere", field.now(), 18);
+        field.restore();
+        CHECK.same("restored", Check.line(field) + " " + field.now(), "3f0 " + field.position(0, 1, -1, true));
+        field.back();
+        CHECK.same("the start too", field.now(), start);
     }
 
     private static void saveAndRestore() {

@@ -205,6 +205,19 @@ public final class ModelTest {
             System.out.println("run " + run + ": " + String.join(" ", calls));
         }
         CHECK.same("run " + run + ", call " + calls.size() + ": " + told, got, due);
+        if (name.equals("line")) {
+            CHECK.same("run " + run + ", call " + calls.size() + ": the line", written(real), written(model));
+        }
+    }
+
+    private static String written(Object target) throws ReflectiveOperationException {
+        StringBuilder text = new StringBuilder();
+        Object sign = answer(target, "character", 0);
+        for (int i = 1; sign instanceof Character; i++) {
+            text.append(sign);
+            sign = answer(target, "character", i);
+        }
+        return text.toString();
     }
 
     private static Object answer(Object target, String name, Object... arguments) throws ReflectiveOperationException {

@@ -189,13 +189,31 @@ public final class PositionTest {
         CHECK.fails("no other", IndexOutOfBoundsException.class, () -> field.wouldChange(0, -1));
         CHECK.fails("no burrow first", IndexOutOfBoundsException.class, () -> field.wouldChange(3, 3));
         CHECK.fails("both are one", IllegalArgumentException.class, () -> field.wouldChange(2, 2));
-        String paths = "01 02 03 04 05 06 07 12 13 14 15 16 17 23 24 25";
+        seventeenthPath();
+    }
+
+    private static void seventeenthPath() {
+        String paths = "43 74 54 24 64 32 52 27 65 53 67 62 75 70 15 36";
         FoxBurrows full = Check.field(8, paths);
-        int seventeenth = full.wouldChange(6, 7);
-        FoxBurrows moved = Check.field(8, paths.substring(0, paths.length() - 3));
-        int without = moved.wouldChange(2, 5);
-        moved.tread(6, 7);
-        CHECK.same("a 17th path and back", seventeenth <= 112 && moved.wouldChange(6, 7) <= 112 && without <= 112, true);
+        Model model = new Model();
+        for (int i = 0; i < 8; i++) {
+            model.dig();
+        }
+        for (int i = 0; i < paths.length(); i += 3) {
+            model.tread(paths.charAt(i) - '0', paths.charAt(i + 1) - '0');
+        }
+        full.flock(2);
+        model.flock(2);
+        int sum = 0;
+        for (int one = 0; one < 8; one++) {
+            for (int other = 0; other < 8; other++) {
+                if (one != other) {
+                    CHECK.same("a path more or less", full.wouldChange(one, other), model.wouldChange(one, other));
+                    sum += full.wouldChange(one, other);
+                }
+            }
+        }
+        CHECK.same("some would change", sum > 0, true);
         CHECK.same("paths stay", full.account(1), 16);
     }
 
