@@ -74,6 +74,11 @@ final class Check {
         return field;
     }
 
+    /** The number of a position, as the terms of the document tell it. */
+    static int number(int fox, int first, int second, boolean isGeese) {
+        return 162 * fox + 18 * first + 2 * (second + 1) + (isGeese ? 1 : 0);
+    }
+
     /** All that the accounts, the burrows, the paths and the game tell, in one text. */
     static String picture(FoxBurrows field) {
         StringBuilder text = new StringBuilder();
