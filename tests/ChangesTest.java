@@ -1,5 +1,5 @@
-import java.util.ArrayList;
 import java.util.List;
+import java.util.function.Consumer;
 
 /** Promises 35 to 37: undo, save and restore. */
 public final class ChangesTest {
@@ -14,23 +14,36 @@ public final class ChangesTest {
         CHECK.end("ChangesTest");
     }
 
-    private static void undoOfEach() {
+    private static final List<Consumer<FoxBurrows>> CHANGES = List.of(FoxBurrows::dig, FoxBurrows::dig, FoxBurrows::dig,
+        field -> field.tread(0, 1), field -> field.tread(2, 1), field -> field.trap(0, true),
+        field -> field.begin(field.position(2, 0, -1, true)), field -> field.move(0, 1), FoxBurrows::back,
+        field -> field.play(1), field -> Check.commands(field, "u;a2"), field -> field.grow(0, 1),
+        field -> field.trap(0, false), field -> field.flock(2));
+
+    private static FoxBurrows changed(int changes) {
         FoxBurrows field = new FoxBurrows();
-        List<Runnable> changes = List.of(field::dig, field::dig, field::dig, () -> field.tread(0, 1),
-            () -> field.tread(2, 1), () -> field.trap(0, true), () -> field.begin(field.position(2, 0, -1, true)),
-            () -> field.move(0, 1), field::back, () -> field.play(1), () -> Check.commands(field, "u;a2"),
-            () -> field.grow(0, 1), () -> field.trap(0, false), () -> field.flock(2));
-        List<String> before = new ArrayList<>();
-        for (Runnable change : changes) {
-            before.add(0, told(field));
-            change.run();
+        for (Consumer<FoxBurrows> change : CHANGES.subList(0, changes)) {
+            change.accept(field);
         }
+        return field;
+    }
+
+    private static void undoOfEach() {
+        for (int undone = 1; undone <= 8; undone++) {
+            FoxBurrows field = changed(CHANGES.size());
+            int left = 8;
+            for (int i = 0; i < undone; i++) {
+                left = field.undo();
+            }
+            CHECK.same("undo", left, 8 - undone);
+            CHECK.same("what there was", told(field), told(changed(CHANGES.size() - undone)));
+        }
+        FoxBurrows field = changed(CHANGES.size());
         for (int i = 0; i < 8; i++) {
-            CHECK.same("undo", field.undo(), 7 - i);
-            CHECK.same("what there was", told(field), before.get(i));
+            field.undo();
         }
         CHECK.fails("no more", IllegalStateException.class, field::undo);
-        CHECK.same("unchanged", told(field), before.get(7));
+        CHECK.same("unchanged", told(field), told(changed(CHANGES.size() - 8)));
     }
 
     /** The picture without the account of changes, which undo makes less. */

@@ -376,6 +376,7 @@ final class FieldSentences {
         told.same("on 0 of a line", line.burrowOf(0, 3), 3);
         told.same("on 1 of a line", line.burrowOf(1, 3), 3);
         told.same("on 2 of a line", line.burrowOf(2, 3), 2);
+        told.same("on 0, also in the lowest position", Check.field(3, "02").burrowOf(0, 3), 3);
         told.same("on one of two burrows, with the turn of the goose", Check.field(2, "01").burrowOf(0, 3), 1);
         told.same("without a goose's burrow", Check.field(1, "").burrowOf(0, 3), 0);
         FoxBurrows three = Check.field(3, "");
@@ -551,6 +552,9 @@ final class FieldSentences {
         account("the greatest number", 6, Check.field(2, "01"), 0);
         account("some without a move", 5, Check.field(3, "01 12"), 6);
         account("the greatest number of a line", 6, Check.field(3, "01 12"), 2);
+        FoxBurrows lowest = Check.field(4, "02 12 13");
+        lowest.trap(1, true);
+        account("the greatest number, of the lowest position alone", 6, lowest, 3);
         account("the greatest number of a square", 6, Check.field(4, "01 12 23 30"), 7);
         account("positions on 8 burrows", 4, Check.field(8, ""), 112);
         account("positions of two geese on 2 burrows", 4, flocked(2), 0);

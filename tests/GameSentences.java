@@ -198,7 +198,7 @@ final class GameSentences {
         told.refused("of one move", 10, 1, field -> field.move(3, 0));
         told.given(game(8, "70 71 72 73 74 75 76", 1134));
         told.refused("of six moves", 10, 6, field -> field.move(7, 0));
-        told.given(() -> longGame(24));
+        told.givenBare(() -> longGame(24));
         told.refused("of three moves when 24 are made", 10, 3, field -> field.move(0, 6));
     }
 

@@ -120,21 +120,24 @@ public final class GameTest {
 
     /** Two geese on a line with a fox far off that can always move: no game is longer than the geese have steps. */
     private static void longGame() {
+        int longest = 0;
+        for (int position = 0; position < 1296; position++) {
+            FoxBurrows field = wide();
+            int number = position;
+            if (Check.thrownBy(() -> field.begin(number)).startsWith("nothing")) {
+                int due = field.positionOf(position, 6);
+                int made = due == 0 ? 0 : field.play(40);
+                CHECK.same(position + " is played as told", made, due);
+                CHECK.same(position + " ends", field.ends(position), field.now());
+                longest = Math.max(longest, made);
+            }
+        }
+        CHECK.same("longest", longest, wide().account(6));
+    }
+
+    private static FoxBurrows wide() {
         FoxBurrows field = Check.field(8, "01 12 23 34 45 56 67 70 02 13 24 35 46 57");
         field.flock(2);
-        int longest = 0;
-        for (int number = 0; number < 1296; number++) {
-            int position = number;
-            if (!Check.thrownBy(() -> field.positionOf(position, 0)).startsWith("nothing")) {
-                continue;
-            }
-            field.begin(position);
-            int due = field.positionOf(position, 6);
-            int made = due == 0 ? 0 : field.play(40);
-            CHECK.same(position + " is played as told", made, due);
-            CHECK.same(position + " ends", field.ends(position), field.now());
-            longest = Math.max(longest, made);
-        }
-        CHECK.same("longest", longest, field.account(6));
+        return field;
     }
 }

@@ -145,7 +145,7 @@ public final class LanguageTest {
         FoxBurrows field = Check.field(8, "01 12 23 34 45 56 67 02 13 24 35 46 57 07");
         field.flock(2);
         long made = beans.getCurrentThreadAllocatedBytes();
-        for (int i = 0; i < 450; i++) {
+        for (int i = 0; i < 120; i++) {
             field.wouldChange(i % 8, (i + 3) % 8);
             field.trap(0, i % 2 == 0);
             field.outcomeAgain(field.position(7, 0, 1, true));

@@ -19,6 +19,20 @@ final class PositionSentences {
     private static final int[][] OF_LINE = {{18, 2, 0}, {19, 2, 2}, {36, 1, 1}, {37, 2, 0}, {162, 2, 2}, {163, 2, 0},
         {198, 1, 1}, {199, 2, 0}, {324, 1, 1}, {325, 1, 1}, {342, 2, 0}, {343, 2, 0}};
 
+    /** All positions of the line when 0-2 is trodden too. */
+    private static final int[][] OF_TRIANGLE = {{18, 1, 1}, {19, 2, 2}, {36, 1, 1}, {37, 2, 0}, {162, 1, 5}, {163, 2, 2},
+        {198, 1, 1}, {199, 2, 0}, {324, 1, 3}, {325, 2, 4}, {342, 1, 3}, {343, 2, 0}};
+
+    /** All positions of the square with a trap on 0. */
+    private static final int[][] OF_TRAP = {{18, 2, 2}, {19, 2, 2}, {36, 1, 1}, {37, 2, 2}, {54, 1, 1}, {55, 2, 0}, {162, 2, 4},
+        {163, 2, 2}, {198, 2, 0}, {199, 2, 2}, {216, 1, 1}, {217, 2, 0}, {324, 1, 3}, {325, 1, 3}, {342, 2, 2}, {343, 2, 0},
+        {378, 1, 1}, {379, 2, 0}, {486, 2, 4}, {487, 2, 2}, {504, 1, 1}, {505, 1, 1}, {522, 2, 0}, {523, 2, 0}};
+
+    /** All positions of two geese on the square with a trap on 3. */
+    private static final int[][] OF_TRAP_FOR_TWO = {{24, 2, 0}, {25, 2, 0}, {26, 2, 0}, {27, 2, 2}, {44, 1, 1}, {45, 2, 0},
+        {168, 2, 0}, {169, 2, 0}, {170, 2, 2}, {171, 2, 0}, {206, 1, 1}, {207, 2, 0}, {328, 2, 0}, {329, 2, 0}, {332, 1, 1},
+        {333, 1, 1}, {350, 2, 0}, {351, 2, 0}, {490, 1, 1}, {491, 1, 1}, {492, 2, 0}, {493, 2, 2}, {510, 1, 1}, {511, 2, 0}};
+
     private final Sentences told;
 
     PositionSentences(Sentences told) {
@@ -38,6 +52,7 @@ final class PositionSentences {
         positionOfBoth();
         notDrawn();
         movesOfOutcomes();
+        outcomesWithTraps();
         again();
         againMissing();
         order();
@@ -233,6 +248,14 @@ final class PositionSentences {
         told.given(() -> Check.field(8, SQUARE));
         told.fails("behind the highest", NONE, field -> ask.of(field, 1244));
         told.fails("two on one", NONE, field -> ask.of(field, 1260));
+        told.given(() -> {
+            FoxBurrows field = flocked(4, SQUARE);
+            field.meanMoves();
+            field.outcomeAgain(24);
+            field.flock(1);
+            return field;
+        });
+        told.fails("one of two geese, when there were two", NONE, field -> ask.of(field, 24));
     }
 
     private void positionOfBoth() {
@@ -260,16 +283,33 @@ final class PositionSentences {
             + "a position that is lost for the other one; lost if each move leads to one that is won for the other one;");
         told.of(12, "A position is won in 1 more than the least number of moves of lost ones to which a move leads; lost in 0 if there is "
             + "no move, and otherwise in 1 more than the greatest number of the won ones to which moves lead.");
-        FoxBurrows line = line();
-        for (int[] due : OF_LINE) {
-            told.same("outcome of " + due[0], line.positionOf(due[0], 5), due[1]);
-            told.same("moves of " + due[0], line.positionOf(due[0], 6), due[2]);
-        }
+        outcomes("of a line", line(), OF_LINE);
+        outcomes("of a triangle", Check.field(3, "01 12 02"), OF_TRIANGLE);
         outcome("to a lost one in 2 and one in 0", square(), 36, 1, 1);
         outcome("to won ones in 5 and in 1", square(), 325, 2, 6);
         outcome("to won ones in 1, 3 and 3", Check.field(5, BOW), 649, 2, 4);
         outcome("to a won one in 3 and a lost one in 0", flocked(4, "01 02 03 12 23"), 491, 1, 1);
         outcome("to a won one in 1 and a lost one in 2", squareOfTwo().get(), 169, 1, 3);
+    }
+
+    private void outcomesWithTraps() {
+        told.of(12, "A piece can stand on a trap if a position tells it so, and move away.");
+        FoxBurrows trapped = square();
+        trapped.trap(0, true);
+        outcomes("with a trap", trapped, OF_TRAP);
+        FoxBurrows two = flocked(4, SQUARE);
+        two.trap(3, true);
+        outcomes("with a trap for two geese", two, OF_TRAP_FOR_TWO);
+        two.trap(3, false);
+        outcome("with none for two geese", two, 25, 1, 1);
+    }
+
+    private void outcomes(String what, FoxBurrows field, int[][] all) {
+        for (int[] due : all) {
+            outcome(what + ": " + due[0], field, due[0], due[1], due[2]);
+            told.same(what + ": " + due[0] + " again", field.outcomeAgain(due[0]), due[1]);
+        }
+        told.same(what + ": all positions", field.account(4), all.length);
     }
 
     private void outcome(String what, FoxBurrows field, int position, int outcome, int moves) {
@@ -291,6 +331,10 @@ final class PositionSentences {
         told.same("lost when its move leads to a trap", changed.outcomeAgain(324), 2);
         changed.undo();
         told.same("won when that is undone", changed.outcomeAgain(324), 1);
+        changed.tread(0, 2);
+        for (int[] due : OF_TRIANGLE) {
+            told.same("outcome of " + due[0] + " with another path", changed.outcomeAgain(due[0]), due[1]);
+        }
     }
 
     private void againMissing() {
@@ -467,6 +511,7 @@ final class PositionSentences {
     private void longest() {
         told.of(19, "Returns the position that is won in the most moves for whoever has the turn, of several the one with the lowest number.");
         told.same("of three in 1", line().longest(false), 36);
+        told.same("of two in 1, the lowest of all", Check.field(3, "02").longest(false), 18);
         told.same("the only one", line().longest(true), 325);
         told.same("of two in 7, not lower ones in 5", square().longest(false), 162);
         told.same("of two in 3, not a lower one in 1", flocked(4, SQUARE).longest(true), 169);
