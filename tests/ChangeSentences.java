@@ -41,7 +41,8 @@ final class ChangeSentences {
     }
 
     private void whatCanBeUndone() {
-        told.of(35, "What can be undone are the successful calls of dig, tread, grow, trap, flock, begin, move, play, back and commands.");
+        told.of(35, "What can be undone are the successful calls of dig, tread, grow, trap, flock, begin, move, play, "
+            + "back and commands.");
         told.of(35, "Undoes the latest call that can be undone.");
         undone("dig", FoxBurrows::dig);
         undone("tread", field -> field.tread(0, 2));

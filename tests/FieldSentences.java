@@ -7,7 +7,7 @@ final class FieldSentences {
     private static final String PATHS_15 = PATHS_14 + " 24";
     private static final String PATHS_16 = PATHS_15 + " 25";
     private static final String REFUSED = "Throws `UnsupportedOperationException` if it is refused for the reason ";
-    private static final String LOWEST_FIRST =
+    private static final String FIRST_LISTED =
         "If several conditions of a method are fulfilled, the one that is listed first determines the exception.";
 
     private final Sentences told;
@@ -350,8 +350,9 @@ final class FieldSentences {
     }
 
     private void whatOfBurrow() {
-        told.of(23, "`what`: 0 for the paths that end there, 1 for those to burrows with greater numbers, 2 for 1 if it is a trap, "
-            + "otherwise 0, 3 for the positions with the fox there that are won for the fox, whoever has the turn");
+        told.of(23, "`what`: 0 for the paths that end there, 1 for those to burrows with greater numbers, 2 for 1 if "
+            + "it is a trap, otherwise 0, 3 for the positions with the fox there that are won for the fox, whoever has "
+            + "the turn");
         FoxBurrows field = Check.field(8, "70 71 27 73 47 75 67 43");
         told.same("1 path, up", field.burrowOf(0, 0) + " " + field.burrowOf(0, 1), "1 1");
         told.same("2 paths, both up", field.burrowOf(3, 0) + " " + field.burrowOf(3, 1), "2 2");
@@ -403,15 +404,15 @@ final class FieldSentences {
         told.given(field(3, "01 12"));
         told.fails("-1", IllegalArgumentException.class, field -> field.burrowOf(1, -1));
         FoxBurrows field = Check.field(3, "01 12");
-        String got = field.burrowOf(1, 0) + " " + field.burrowOf(1, 1) + " " + field.burrowOf(1, 2) + " " + field.burrowOf(1, 3);
-        told.same("0 to 3", got, "2 1 0 3");
+        told.same("0 and 1", field.burrowOf(1, 0) + " " + field.burrowOf(1, 1), "2 1");
+        told.same("2 and 3", field.burrowOf(1, 2) + " " + field.burrowOf(1, 3), "0 3");
         told.fails("4", IllegalArgumentException.class, x -> x.burrowOf(1, 4));
         told.fails("the greatest", IllegalArgumentException.class, x -> x.burrowOf(1, Integer.MAX_VALUE));
         told.fails("the least", IllegalArgumentException.class, x -> x.burrowOf(1, Integer.MIN_VALUE));
     }
 
     private void burrowOfBoth() {
-        told.of(23, LOWEST_FIRST);
+        told.of(23, FIRST_LISTED);
         told.given(field(3, "01 12"));
         told.fails("no burrow and no what", IndexOutOfBoundsException.class, field -> field.burrowOf(3, 4));
         told.fails("no burrow and no what, below", IndexOutOfBoundsException.class, field -> field.burrowOf(-1, -1));
@@ -455,8 +456,8 @@ final class FieldSentences {
     }
 
     private void gameEnds() {
-        told.of(34, "When a burrow is dug, a path is trodden or grows over, a trap is made or filled, or the number of geese "
-            + "becomes another one, the game ends, and there is none.");
+        told.of(34, "When a burrow is dug, a path is trodden or grows over, a trap is made or filled, or the number of "
+            + "geese becomes another one, the game ends, and there is none.");
         ends("dig", FoxBurrows::dig);
         ends("tread", field -> field.tread(0, 2));
         ends("grow", field -> field.grow(0, 1));
@@ -507,10 +508,10 @@ final class FieldSentences {
     }
 
     private void whatOfAccount() {
-        told.of(34, "`what`: 0 for the burrows, 1 for the paths, 2 for the traps, 3 for the geese, 4 for all positions, "
-            + "5 for those in which there is no move, 6 for the greatest number of moves in which one is won or lost, "
-            + "-1 if there is none, 7 for the moves made in the game, -1 without a game, 8 for the games begun so far, "
-            + "9 for the changes that can be undone, 10 for the characters in the text buffer");
+        told.of(34, "`what`: 0 for the burrows, 1 for the paths, 2 for the traps, 3 for the geese, 4 for all "
+            + "positions, 5 for those in which there is no move, 6 for the greatest number of moves in which one is "
+            + "won or lost, -1 if there is none, 7 for the moves made in the game, -1 without a game, 8 for the games "
+            + "begun so far, 9 for the changes that can be undone, 10 for the characters in the text buffer");
         account("burrows", 0, new FoxBurrows(), 0);
         account("burrows", 0, Check.field(8, ""), 8);
         account("paths", 1, Check.field(8, ""), 0);

@@ -265,8 +265,8 @@ final class GameSentences {
 
     private void moveOrder() {
         told.of(8, REFUSED + "8, 9, 10, or 2, with 40; the reason is kept");
-        told.of(8, "Something is refused for the first that applies of the reasons that its method names, in the order in which it "
-            + "names them: 1, a number is out of range;");
+        told.of(8, "Something is refused for the first that applies of the reasons that its method names, in the order "
+            + "in which it names them: 1, a number is out of range;");
         told.given(() -> Check.field(2, "01"));
         told.refused("8 before 10", 8, 0, field -> field.move(0, 0));
         told.given(game(2, "01", 18));
@@ -322,7 +322,8 @@ final class GameSentences {
     }
 
     private void playRefused() {
-        told.of(9, REFUSED + "1, 8, 9, or 2, with 40, if no move more can be kept; it ends when 40 are kept; the reason is kept");
+        told.of(9, REFUSED
+            + "1, 8, 9, or 2, with 40, if no move more can be kept; it ends when 40 are kept; the reason is kept");
         told.given(() -> Check.field(4, SQUARE));
         told.refused("1 before 8, too few", 1, 0, field -> field.play(0));
         told.refused("1 before 8, too many", 1, 0, field -> field.play(41));
@@ -400,8 +401,9 @@ final class GameSentences {
     }
 
     private void lineOf() {
-        told.of(30, "Writes the moves of the game, in place of the line before: for each the burrow from which, \"f\" if the fox moved "
-            + "or \"g\" if a goose did, and the burrow to which, with a blank between two; as in \"3f4 0g1\"; nothing without a game.");
+        told.of(30, "Writes the moves of the game, in place of the line before: for each the burrow from which, \"f\" "
+            + "if the fox moved or \"g\" if a goose did, and the burrow to which, with a blank between two; as in "
+            + "\"3f4 0g1\"; nothing without a game.");
         told.same("without a game", Check.field(4, SQUARE).line(), 0);
         told.same("no move", begun(4, SQUARE, 486).line(), 0);
         told.same("one move", Check.line(played(1)), "3f2");

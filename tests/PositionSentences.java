@@ -104,8 +104,8 @@ final class PositionSentences {
     }
 
     private void numbers() {
-        told.of(11, "The number of a position is 162 times the burrow of the fox, 18 times that of the first goose, twice 1 more than "
-            + "that of the second one, and 1 if it is the turn of the geese, together.");
+        told.of(11, "The number of a position is 162 times the burrow of the fox, 18 times that of the first goose, "
+            + "twice 1 more than that of the second one, and 1 if it is the turn of the geese, together.");
         told.same("the lowest", Check.field(8, "").position(0, 1, -1, false), 18);
         told.same("the turn of the goose", Check.field(8, "").position(0, 1, -1, true), 19);
         told.same("the goose one higher", Check.field(8, "").position(0, 2, -1, false), 36);
@@ -128,8 +128,8 @@ final class PositionSentences {
     }
 
     private void positionWithoutBurrow() {
-        told.of(11, "Throws `NoSuchElementException` if there is no such position: a burrow that there is not, two pieces on one, "
-            + "geese in another order, or another number of geese");
+        told.of(11, "Throws `NoSuchElementException` if there is no such position: a burrow that there is not, two "
+            + "pieces on one, geese in another order, or another number of geese");
         told.given(PositionSentences::square);
         told.fails("the fox below 0", NONE, field -> field.position(-1, 1, -1, true));
         told.same("the fox on 0", square().position(0, 1, -1, true), 19);
@@ -187,9 +187,10 @@ final class PositionSentences {
     }
 
     private void whatOfPosition() {
-        told.of(12, "`what`: 0 for the burrow of the fox, 1 and 2 for those of the geese, -1 for the second one with one goose, 3 for 1 "
-            + "if it is the turn of the geese, otherwise 0, 4 for its moves, 5 for 1 if it is won for whoever has the turn, 2 if it is "
-            + "lost, 0 if it is drawn, 6 for in how many moves, -1 if it is drawn");
+        told.of(12, "`what`: 0 for the burrow of the fox, 1 and 2 for those of the geese, -1 for the second one with "
+            + "one goose, 3 for 1 if it is the turn of the geese, otherwise 0, 4 for its moves, 5 for 1 if it is won "
+            + "for whoever has the turn, 2 if it is lost, 0 if it is drawn, 6 for in how many moves, -1 if it is "
+            + "drawn");
         told.same("of the lowest", numbersOf(line(), 18), "0 1 -1 0 0 2 0");
         told.same("of the highest", numbersOf(line(), 343), "2 1 -1 1 0 2 0");
         told.same("one move", numbersOf(line(), 325), "2 0 -1 1 1 1 1");
@@ -279,10 +280,12 @@ final class PositionSentences {
     }
 
     private void movesOfOutcomes() {
-        told.of(12, "Whoever has the turn and no move has lost. Otherwise a position is won for whoever has the turn if some move leads to "
-            + "a position that is lost for the other one; lost if each move leads to one that is won for the other one;");
-        told.of(12, "A position is won in 1 more than the least number of moves of lost ones to which a move leads; lost in 0 if there is "
-            + "no move, and otherwise in 1 more than the greatest number of the won ones to which moves lead.");
+        told.of(12, "Whoever has the turn and no move has lost. Otherwise a position is won for whoever has the turn "
+            + "if some move leads to a position that is lost for the other one; lost if each move leads to one that is "
+            + "won for the other one;");
+        told.of(12, "A position is won in 1 more than the least number of moves of lost ones to which a move leads; "
+            + "lost in 0 if there is no move, and otherwise in 1 more than the greatest number of the won ones to "
+            + "which moves lead.");
         outcomes("of a line", line(), OF_LINE);
         outcomes("of a triangle", Check.field(3, "01 12 02"), OF_TRIANGLE);
         outcome("to a lost one in 2 and one in 0", square(), 36, 1, 1);
@@ -317,7 +320,8 @@ final class PositionSentences {
     }
 
     private void again() {
-        told.of(13, "Returns what a position is, as by what 5, by a second way: by looking at all positions again and again.");
+        told.of(13, "Returns what a position is, as by what 5, by a second way: by looking at all positions again and "
+            + "again.");
         told.of(13, "Returns 1 if it is won, 2 if it is lost, 0 if it is drawn.");
         FoxBurrows line = line();
         for (int[] due : OF_LINE) {
@@ -351,12 +355,14 @@ final class PositionSentences {
     }
 
     private void order() {
-        told.of(14, "The moves of a position are in this order: by the burrows from which, then those to which they lead, the lowest first.");
+        told.of(14, "The moves of a position are in this order: by the burrows from which, then those to which they "
+            + "lead, the lowest first.");
         told.of(14, "`isTo`: true for the burrow to which it leads, false for that from which");
         told.same("one", moves(line(), 325), "01");
         told.same("two of one goose", moves(square(), 325), "01 03");
         told.same("two of the fox, trodden the other way", moves(Check.field(4, "32 30"), 504), "30 32");
-        told.same("of two geese, trodden the other way", moves(flocked(5, "14 12 04 02 01"), Check.number(3, 0, 1, true)), "02 04 12 14");
+        FoxBurrows two = flocked(5, "14 12 04 02 01");
+        told.same("of two geese, trodden the other way", moves(two, Check.number(3, 0, 1, true)), "02 04 12 14");
         told.same("none", moves(line(), 343), "");
     }
 
@@ -393,8 +399,8 @@ final class PositionSentences {
     }
 
     private void bestOfSeveral() {
-        told.of(15, "The best move of a position that is won leads to a lost one with the least number; of one that is lost, to a won one "
-            + "with the greatest number;");
+        told.of(15, "The best move of a position that is won leads to a lost one with the least number; of one that is "
+            + "lost, to a won one with the greatest number;");
         told.of(15, "of several it is the first one.");
         told.same("won: in 0, not in 2 before it", square().best(36), 3);
         told.same("won: the first of two in 2", square().best(324), 17);
@@ -491,8 +497,8 @@ final class PositionSentences {
     }
 
     private static String counts(FoxBurrows field) {
-        return field.count(0, false) + " " + field.count(1, false) + " " + field.count(2, false) + ", " + field.count(0, true) + " "
-            + field.count(1, true) + " " + field.count(2, true);
+        return field.count(0, false) + " " + field.count(1, false) + " " + field.count(2, false) + ", "
+            + field.count(0, true) + " " + field.count(1, true) + " " + field.count(2, true);
     }
 
     private void countMissing() {
@@ -509,7 +515,8 @@ final class PositionSentences {
     }
 
     private void longest() {
-        told.of(19, "Returns the position that is won in the most moves for whoever has the turn, of several the one with the lowest number.");
+        told.of(19, "Returns the position that is won in the most moves for whoever has the turn, of several the one "
+            + "with the lowest number.");
         told.same("of three in 1", line().longest(false), 36);
         told.same("of two in 1, the lowest of all", Check.field(3, "02").longest(false), 18);
         told.same("the only one", line().longest(true), 325);
@@ -532,7 +539,8 @@ final class PositionSentences {
 
     private void wonIn() {
         told.of(20, "Returns how many positions are won or lost in a number of moves.");
-        told.same("of a line", line().wonIn(0) + " " + line().wonIn(1) + " " + line().wonIn(2) + " " + line().wonIn(3), "6 4 2 0");
+        told.same("of a line, in 0 and 1", line().wonIn(0) + " " + line().wonIn(1), "6 4");
+        told.same("of a line, in 2 and 3", line().wonIn(2) + " " + line().wonIn(3), "2 0");
         told.same("the one before the most", square().wonIn(6), 1);
         told.same("the most", square().wonIn(7), 2);
         told.same("behind the most", square().wonIn(8), 0);
@@ -553,8 +561,8 @@ final class PositionSentences {
     }
 
     private void wouldChange() {
-        told.of(21, "Returns how many positions would be won, lost or drawn otherwise if a path was there that is not, or was not there that "
-            + "is.");
+        told.of(21, "Returns how many positions would be won, lost or drawn otherwise if a path was there that is not, "
+            + "or was not there that is.");
         told.same("one less", line().wouldChange(0, 1) + " " + line().wouldChange(1, 2), "5 1");
         told.same("one less, the other way", line().wouldChange(1, 0) + " " + line().wouldChange(2, 1), "5 1");
         told.same("one more", line().wouldChange(0, 2) + " " + line().wouldChange(2, 0), "4 4");
@@ -572,12 +580,15 @@ final class PositionSentences {
         told.of(21, "What would change is told by won, lost and drawn alone, also if there are 16 paths.");
         told.same("in other numbers of moves alone", square().wouldChange(0, 2) + " " + square().wouldChange(1, 3), "0 0");
         FoxBurrows fewer = flocked(8, PATHS_14);
-        told.same("a 15th path", fewer.wouldChange(6, 7) + " " + fewer.wouldChange(2, 5) + " " + fewer.wouldChange(0, 6), "2 1 12");
+        told.same("a 15th path", fewer.wouldChange(6, 7) + " " + fewer.wouldChange(2, 5), "2 1");
+        told.same("one of 14 less", fewer.wouldChange(0, 6) + " " + fewer.wouldChange(0, 1), "12 0");
         FoxBurrows one = flocked(8, PATHS_14 + " 24");
-        told.same("a 16th path", one.wouldChange(6, 7) + " " + one.wouldChange(2, 5) + " " + one.wouldChange(0, 6), "2 1 12");
+        told.same("a 16th path", one.wouldChange(6, 7) + " " + one.wouldChange(2, 5), "2 1");
+        told.same("one of 15 less", one.wouldChange(0, 6) + " " + one.wouldChange(0, 1), "12 0");
         FoxBurrows full = flocked(8, PATHS_16);
-        told.same("a 17th path", full.wouldChange(6, 7) + " " + full.wouldChange(2, 6) + " " + full.wouldChange(3, 6), "2 1 1");
-        told.same("one of 16 less", full.wouldChange(2, 5) + " " + full.wouldChange(0, 6) + " " + full.wouldChange(0, 1), "1 12 0");
+        told.same("a 17th path", full.wouldChange(6, 7) + " " + full.wouldChange(2, 6), "2 1");
+        told.same("one of 16 less", full.wouldChange(0, 6) + " " + full.wouldChange(0, 1), "12 0");
+        told.same("the 16th less", full.wouldChange(2, 5), 1);
         told.same("16 paths still", full.account(1), 16);
     }
 
@@ -609,8 +620,8 @@ final class PositionSentences {
     }
 
     private void bestBurrow() {
-        told.of(22, "Returns the burrow for the fox, with all else as it is, from which the fewest moves win for the fox, of several the lowest; "
-            + "also its own.");
+        told.of(22, "Returns the burrow for the fox, with all else as it is, from which the fewest moves win for the "
+            + "fox, of several the lowest; also its own.");
         told.same("in 3, not in 7 below and above", square().bestBurrow(162), 2);
         told.same("from above", square().bestBurrow(486), 2);
         told.same("its own", square().bestBurrow(324), 2);
@@ -644,8 +655,8 @@ final class PositionSentences {
     }
 
     private void mean() {
-        told.of(32, "Returns the mean number of moves in which positions that are won or lost are so: the sum divided by their number, both as "
-            + "doubles.");
+        told.of(32, "Returns the mean number of moves in which positions that are won or lost are so: the sum divided "
+            + "by their number, both as doubles.");
         told.same("all in 0", Check.field(2, "01").meanMoves(), 0.0);
         told.same("of a line", line().meanMoves(), 8.0 / 12.0);
         told.same("of a square", square().meanMoves(), 58.0 / 24.0);

@@ -1,7 +1,7 @@
 import java.io.IOException;
 import java.util.List;
 
-/** Promises 1 to 37: a test for each sentence of the document that names a boundary, told by the promise's number and the sentence. */
+/** Promises 1 to 37: for each sentence of the document that names a boundary a test, told by the number and the sentence. */
 public final class SentenceTest {
     /** Sentences that name no boundary. */
     private static final List<String> PLAIN = List.of(

@@ -109,9 +109,10 @@ final class TextSentences {
     }
 
     private void eachCommand() {
-        told.of(27, "\"p\", a burrow, \"-\" and a burrow treads a path; \"x\", a burrow, \"-\" and a burrow lets it grow over; \"t\" and a burrow "
-            + "makes a trap, and \"f\" and a burrow fills it; \"g\" and a number tells how many geese there are; \"b\" and a position begins a "
-            + "game; \"m\", a burrow, \">\" and a burrow moves; \"a\" and a number lets play; and \"u\" takes a move back.");
+        told.of(27, "\"p\", a burrow, \"-\" and a burrow treads a path; \"x\", a burrow, \"-\" and a burrow lets it "
+            + "grow over; \"t\" and a burrow makes a trap, and \"f\" and a burrow fills it; \"g\" and a number tells "
+            + "how many geese there are; \"b\" and a position begins a game; \"m\", a burrow, \">\" and a burrow "
+            + "moves; \"a\" and a number lets play; and \"u\" takes a move back.");
         told.of(27, "The commands are carried out as the methods would, all of them or none.");
         as("d", FoxBurrows::dig);
         as("p3-1", field -> field.tread(3, 1));
@@ -216,8 +217,8 @@ final class TextSentences {
     }
 
     private void tooEarly() {
-        told.of(28, "The fault position of a text is the index of its first character that cannot continue such a text, or the length of the "
-            + "text if it ends too early.");
+        told.of(28, "The fault position of a text is the index of its first character that cannot continue such a "
+            + "text, or the length of the text if it ends too early.");
         told.givenBare(TextSentences::busy);
         String[] early = {"", "p", "p0", "p0-", "x", "x3", "x3-", "t", "f", "g", "b", "m", "m2", "m2>", "a"};
         for (String text : early) {
@@ -267,7 +268,8 @@ final class TextSentences {
     }
 
     private void noneCarriedOut() {
-        told.of(27, "Carries out the commands in the text buffer, one after the other; if one is refused, none is carried out.");
+        told.of(27, "Carries out the commands in the text buffer, one after the other; if one is refused, none is "
+            + "carried out.");
         told.givenBare(TextSentences::busy);
         told.refusedText("p2-2", 4, 2, 0);
         told.refusedText("p2-2;d", 4, 2, 0);
@@ -325,7 +327,8 @@ final class TextSentences {
 
     private void commandsFaulty() {
         told.of(27, "Throws `IllegalArgumentException` if the text has a fault");
-        told.of(27, "If several conditions of a method are fulfilled, the one that is listed first determines the exception.");
+        told.of(27, "If several conditions of a method are fulfilled, the one that is listed first determines the "
+            + "exception.");
         told.givenBare(TextSentences::busy);
         told.faulty("p2-2;d;", 7);
         told.faulty("t9;?", 3);
@@ -343,8 +346,8 @@ final class TextSentences {
     }
 
     private void faultPosition() {
-        told.of(28, "Returns the fault position of the text of the latest call of commands. Returns the fault position, or -1 if that text had no "
-            + "fault or there was no such call.");
+        told.of(28, "Returns the fault position of the text of the latest call of commands. Returns the fault "
+            + "position, or -1 if that text had no fault or there was no such call.");
         FoxBurrows field = busy();
         told.same("no such call", new FoxBurrows().faultPosition() + " " + field.faultPosition(), "-1 -1");
         told.same("an empty text", faultOf(field, ""), 0);
@@ -431,10 +434,11 @@ final class TextSentences {
 
     /** Each reason once more, told by a text. */
     private void detailsOfTexts() {
-        told.of(29, "1, a number is out of range; 2, there would be more than there can be: how many there can be; 3, there is no such burrow: its "
-            + "number; 4, both burrows are one: the burrow; 5, it is so already; 6, there is no path between them: the burrow told first; 7, "
-            + "there is no such position: the number; 8, there is no game; 9, the game is over: how many moves it had; 10, there is no such "
-            + "move: how many moves there are; 11, no move was made.");
+        told.of(29, "1, a number is out of range; 2, there would be more than there can be: how many there can be; 3, "
+            + "there is no such burrow: its number; 4, both burrows are one: the burrow; 5, it is so already; 6, there "
+            + "is no path between them: the burrow told first; 7, there is no such position: the number; 8, there is "
+            + "no game; 9, the game is over: how many moves it had; 10, there is no such move: how many moves there "
+            + "are; 11, no move was made.");
         told.givenBare(TextSentences::busy);
         told.refusedText("g2;a41", 1, 0, 1);
         told.refusedText("d;d;d;d;d;d", 2, 8, 4);
