@@ -474,7 +474,7 @@ public final class FoxBurrows {
 
     private int addPath(int one, int other) {
         Field field = state.field;
-        if (isBurrowMissing(one) || isBurrowMissing(other)) {
+        if (isRefusedFor(one) || isRefusedFor(other)) {
             return REFUSED;
         }
         if (one == other) {
@@ -493,7 +493,7 @@ public final class FoxBurrows {
 
     private int dropPath(int one, int other) {
         Field field = state.field;
-        if (isBurrowMissing(one) || isBurrowMissing(other)) {
+        if (isRefusedFor(one) || isRefusedFor(other)) {
             return REFUSED;
         }
         int path = field.pathBetween(one, other);
@@ -507,7 +507,7 @@ public final class FoxBurrows {
 
     private int turnTrap(int burrow, boolean isTrap) {
         Field field = state.field;
-        if (isBurrowMissing(burrow)) {
+        if (isRefusedFor(burrow)) {
             return REFUSED;
         }
         if (field.isTrap(burrow) == isTrap) {
@@ -628,8 +628,12 @@ public final class FoxBurrows {
         }
     }
 
-    private boolean isBurrowMissing(int burrow) {
-        return !state.field.has(burrow) && refused(NO_BURROW, burrow) == REFUSED;
+    private boolean isRefusedFor(int burrow) {
+        if (state.field.has(burrow)) {
+            return false;
+        }
+        refused(NO_BURROW, burrow);
+        return true;
     }
 
     private int refused(int why, int detail) {
